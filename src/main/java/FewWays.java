@@ -276,7 +276,7 @@ public final class FewWays {
                     judgeNests();
                     break;
                 default:
-                    judgeWeights();
+                    judgeWeights(0, 0, 0, 0);
                     break;
             }
         }
@@ -340,43 +340,32 @@ public final class FewWays {
             return a > Math.max(b, c) || b > Math.max(a, c) || c > Math.max(a, b);
         }
 
-        /** The sum of 1 leaves the last point no choice, so only the others are gone through. */
-        private void judgeWeights() {
-            int lastPoint = table.points - 1;
-            int heads = 1;
-            for (int point = 0; point < lastPoint; point++) {
-                heads *= WEIGHT_KINDS;
-            }
-            for (int head = 0; head < heads; head++) {
-                int last = 1 - weighAllButLast(head);
-                if (last >= -HEAVIEST && last <= HEAVIEST) {
-                    weights[lastPoint] = last;
-                    if (weightedSum() > 0) {
-                        note(head * WEIGHT_KINDS + last + HEAVIEST);
-                    }
+        /**
+         * Gives the points from this one on their weights; figures, sum and worth are of those before
+         * it. The sum of 1 leaves the last point no choice.
+         */
+        private void judgeWeights(int point, int figures, int sum, int worth) {
+            int pull = pullOn(point);
+            if (point >= table.points - 1) {
+                int last = 1 - sum;
+                if (last >= -HEAVIEST && last <= HEAVIEST && worth + last * pull > 0) {
+                    note(figures * WEIGHT_KINDS + last + HEAVIEST);
                 }
+                return;
+            }
+            for (int weight = -HEAVIEST; weight <= HEAVIEST; weight++) {
+                weights[point] = weight;
+                int longer = figures * WEIGHT_KINDS + weight + HEAVIEST;
+                judgeWeights(point + 1, longer, sum + weight, worth + weight * pull);
             }
         }
 
-        private int weighAllButLast(int head) {
-            int figures = head;
-            int sum = 0;
-            for (int point = table.points - 2; point >= 0; point--) {
-                weights[point] = figures % WEIGHT_KINDS - HEAVIEST;
-                figures /= WEIGHT_KINDS;
-                sum += weights[point];
+        private int pullOn(int point) {
+            int pull = 0;
+            for (int i = 0; i < point; i++) {
+                pull += weights[i] * table.between(i, point);
             }
-            return sum;
-        }
-
-        private int weightedSum() {
-            int sum = 0;
-            for (int i = 0; i < table.points; i++) {
-                for (int j = i + 1; j < table.points; j++) {
-                    sum += weights[i] * weights[j] * table.between(i, j);
-                }
-            }
-            return sum;
+            return pull;
         }
     }
 
@@ -482,10 +471,9 @@ public final class FewWays {
         }
 
         /**
-         * A cut that parts three points leaves one of them alone. The way from the one of the other
-         * two to the other by way of it shrinks by 2 each time, the straight way stays; no other
-         * way loses more than the straight one does. With the other two the same point, the way
-         * there and back bounds the distance itself.
+         * A cut that parts three points leaves one of them alone, and shortens both of its distances:
+         * what the way by it has to spare shrinks by 2 each time, what the other two ways have to
+         * spare stays. With i and k the same point this keeps the distance itself from falling below 0.
          */
         private int mostHalves(int cut) {
             int most = 2 * FARTHEST;
@@ -683,9 +671,12 @@ public final class FewWays {
 
         int smallestRow(int length) {
             int smallest = 0;
+            int least = size(length, smallest);
             for (int row = 1; row < 1 << length; row++) {
-                if (size(length, row) < size(length, smallest)) {
+                int size = size(length, row);
+                if (size < least) {
                     smallest = row;
+                    least = size;
                 }
             }
             return smallest;
