@@ -50,12 +50,45 @@ final class Make {
         return order;
     }
 
+    /** So many points with unlike distances, none above two others together, and ten unlike numbers. */
+    static FewWays busy(int points) {
+        FewWays x = new FewWays();
+        x.table(points);
+        for (int i = 0; i < points; i++) {
+            for (int j = i + 1; j < points; j++) {
+                x.set(i, j, 12 + (7 * i + 5 * j) % 9);
+            }
+        }
+        for (int i = 0; i < 10; i++) {
+            x.number(i, 17 * i - 60);
+        }
+        return x;
+    }
+
+    /** All that an object holds as text, its numbers too (each is put back), and some of its answers. */
+    static String state(FewWays x) {
+        StringBuilder text = new StringBuilder(all(x));
+        for (int i = 0; i < 10; i++) {
+            int v = x.number(i, 0);
+            x.number(i, v);
+            text.append(' ').append(v);
+        }
+        for (int law = 0; law <= 3; law++) {
+            text.append(' ').append(x.law(law)).append(' ').append(x.breaks(law));
+        }
+        text.append(' ').append(x.flat()).append(' ').append(x.ways()).append(' ').append(x.bulk(x.count()));
+        text.append(' ').append(x.peel(2)).append(' ').append(x.left(0, 1)).append(' ').append(x.best(0));
+        text.append(' ').append(x.centres(1, 1, 0)).append(' ').append(x.signs(10, 40)).append(' ').append(x.least(10, 0));
+        return text.toString();
+    }
+
     /** All distances as text, to see that nothing changed. */
     static String all(FewWays x) {
+        int n = x.count();
         StringBuilder text = new StringBuilder();
-        text.append(x.count());
-        for (int i = 0; i < x.count(); i++) {
-            for (int j = 0; j < x.count(); j++) {
+        text.append(n);
+        for (int i = 0; i < n; i++) {
+            for (int j = 0; j < n; j++) {
                 text.append(' ').append(x.at(i, j));
             }
         }

@@ -1,13 +1,16 @@
-/** Runs of 512 drawn calls each, every answer held against the model's; the draws are always the same. */
+/** Runs of up to 512 drawn calls each, every answer held against the model's; the draws are always the same. */
 public final class ModelTest {
     private static final Check CHECK = new Check("ModelTest");
-    private static final int RUNS = 60;
-    private static final int CALLS = 512;
+    private static final int RUNS = 240;
+    private static final int MOST_CALLS = 512;
+    /** A whole table: table, 15 distances, 6 cuts; and what is asked after each step. */
+    private static final int MOST_CALLS_OF_A_STEP = 1 + 15 + 6 + 2;
 
     private final Draw draw;
     private final FewWays x = new FewWays();
     private final Model model = new Model();
     private final String run;
+    private int calls;
 
     private ModelTest(int seed) {
         draw = new Draw(seed);
@@ -22,7 +25,7 @@ public final class ModelTest {
     }
 
     private void go() {
-        for (int turn = 0; turn < CALLS; turn++) {
+        while (calls + MOST_CALLS_OF_A_STEP <= MOST_CALLS) {
             step();
         }
     }
@@ -42,7 +45,9 @@ public final class ModelTest {
         due("count", x.count(), model.count());
     }
 
+    /** Each answer is that of one call of the object. */
     private void due(String call, long got, long want, int... told) {
+        calls++;
         CHECK.due(run + call + java.util.Arrays.toString(told), got, want);
     }
 
