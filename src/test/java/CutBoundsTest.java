@@ -372,9 +372,10 @@ public final class CutBoundsTest {
         CHECK.due("left(0, 2) of 0 30 29", x.left(0, 2), 60);
         CHECK.due("left(2, 1) of 0 30 29", x.left(2, 1), 58);
         FewWays some = Make.table(5, 5, 4, 3, 4, 5, 3, 4, 3, 5, 4);
+        Model model = Model.of(some);
         for (int i = 0; i < 5; i++) {
             for (int j = 0; j < 5; j++) {
-                CHECK.due("left(" + i + ", " + j + ")", some.left(i, j), Model.of(some).left(i, j));
+                CHECK.due("left(" + i + ", " + j + ")", some.left(i, j), model.left(i, j));
             }
         }
         FewWays odd = Make.table(5, 1, 1, 2, 1, 2, 2, 2, 2, 2, 2);

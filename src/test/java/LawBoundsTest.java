@@ -35,27 +35,29 @@ public final class LawBoundsTest {
 
     /** One sentence bounds both: which case is the first (5), and how many there are (6). */
     private static void judge(String words, FewWays x, int law, int first, int many) {
+        String table = Make.all(x);
         CHECK.sentence(5, words);
-        CHECK.due("law(" + law + ") of " + Make.all(x), x.law(law), first);
+        CHECK.due("law(" + law + ") of " + table, x.law(law), first);
         CHECK.sentence(6, words);
-        CHECK.due("breaks(" + law + ") of " + Make.all(x), x.breaks(law), many);
+        CHECK.due("breaks(" + law + ") of " + table, x.breaks(law), many);
     }
 
     private static void laws() {
         FewWays x = Make.table(4, 3, 1, 1, 1, 1, 1);
-        judge("CASES", x, 0, 17, 2);
-        judge("CASES", x, 1, 83, 1);
-        judge("CASES", x, 2, 10, 2);
-        CHECK.sentence(5, "LAW (0 to 3)");
-        CHECK.due("law(3)", x.law(3), Model.of(x).law(3));
-        CHECK.holds("law 3 is one", x.law(3) >= 0);
-        CHECK.due("law(4)", x.law(4), -1);
+        int[] first = {17, 83, 10, 91 * 5 + 2};
+        int[] many = {2, 1, 2, Model.of(x).breaks(3)};
+        CHECK.sentence(5, "The first CASE that breaks a LAW (0 to 3).");
         CHECK.due("law(-1)", x.law(-1), -1);
-        CHECK.sentence(6, "a LAW");
-        CHECK.due("breaks(3)", x.breaks(3), Model.of(x).breaks(3));
-        CHECK.holds("law 3 is broken", x.breaks(3) > 0);
-        CHECK.due("breaks(4)", x.breaks(4), -1);
+        for (int law = 0; law <= 3; law++) {
+            CHECK.due("law(" + law + ")", x.law(law), first[law]);
+        }
+        CHECK.due("law(4)", x.law(4), -1);
+        CHECK.sentence(6, "How many CASES break a LAW.");
         CHECK.due("breaks(-1)", x.breaks(-1), -1);
+        for (int law = 0; law <= 3; law++) {
+            CHECK.due("breaks(" + law + ")", x.breaks(law), many[law]);
+        }
+        CHECK.due("breaks(4)", x.breaks(4), -1);
     }
 
     private static void noSuchLaw() {
@@ -93,9 +95,15 @@ public final class LawBoundsTest {
     private static void noneBroken() {
         for (int n = 2; n <= 6; n++) {
             for (int distance : EVENS) {
+                String table = n + " points, all " + distance;
                 FewWays x = Make.even(n, distance);
+                CHECK.sentence(5, "The first CASE that breaks a LAW (0 to 3). NONE");
                 for (int law = 0; law <= 3; law++) {
-                    judge("LAW", x, law, NONE, 0);
+                    CHECK.due("law(" + law + ") of " + table, x.law(law), NONE);
+                }
+                CHECK.sentence(6, "How many CASES break a LAW.");
+                for (int law = 0; law <= 3; law++) {
+                    CHECK.due("breaks(" + law + ") of " + table, x.breaks(law), 0);
                 }
             }
         }
