@@ -7,6 +7,8 @@ import java.nio.file.Files;
 import java.nio.file.Path;
 import java.util.Set;
 import java.util.TreeSet;
+import java.util.regex.Matcher;
+import java.util.regex.Pattern;
 
 /** The face of the class is the document's, and its text keeps to what LANGUAGE.md leaves. */
 public final class FaceTest {
@@ -23,6 +25,8 @@ public final class FaceTest {
         fields();
         classesInside();
         text();
+        objectsMade();
+        methodLengths();
         CHECK.end();
     }
 
@@ -64,7 +68,6 @@ public final class FaceTest {
         Set<String> open = new TreeSet<>();
         for (Field field : FewWays.class.getDeclaredFields()) {
             int modifiers = field.getModifiers();
-            CHECK.holds(field + " is not static or final", !Modifier.isStatic(modifiers) || Modifier.isFinal(modifiers));
             if (!Modifier.isPrivate(modifiers)) {
                 open.add(field.getName());
                 CHECK.holds(field + " is a public constant",
@@ -81,19 +84,21 @@ public final class FaceTest {
         for (String method : FACE) {
             names.add(method.substring(method.indexOf(' ') + 1, method.indexOf('(')));
         }
-        checkPrivateNames(FewWays.class, names);
+        checkMembers(FewWays.class, names);
         for (Class<?> some : inside) {
             int modifiers = some.getModifiers();
             CHECK.holds(some + " is static", Modifier.isStatic(modifiers));
             CHECK.holds(some + " is not open", !Modifier.isPublic(modifiers) && !Modifier.isProtected(modifiers));
-            checkPrivateNames(some, names);
+            checkMembers(some, names);
         }
     }
 
-    private static void checkPrivateNames(Class<?> some, Set<String> names) {
+    private static void checkMembers(Class<?> some, Set<String> names) {
         int fields = 0;
         for (Field field : some.getDeclaredFields()) {
-            fields += Modifier.isStatic(field.getModifiers()) ? 0 : 1;
+            int modifiers = field.getModifiers();
+            fields += Modifier.isStatic(modifiers) ? 0 : 1;
+            CHECK.holds(field + " is not static or final", !Modifier.isStatic(modifiers) || Modifier.isFinal(modifiers));
         }
         CHECK.holds(some + " has some twenty fields at most", fields <= 20);
         for (Method method : some.getDeclaredMethods()) {
@@ -103,8 +108,33 @@ public final class FaceTest {
         }
     }
 
+    private static String source() throws IOException {
+        return Files.readString(Path.of("src/main/java/FewWays.java"));
+    }
+
+    /** All calls of one run share one room: what an object needs is made with it, and once. */
+    private static void objectsMade() throws IOException {
+        for (String line : source().lines().toList()) {
+            boolean field = line.strip().startsWith("private final ");
+            CHECK.holds("no call makes what stands in: " + line.strip(), field || !line.contains("new "));
+        }
+    }
+
+    /** A method begins at a line that ends with ") {" and ends at the brace that stands as far in. */
+    private static void methodLengths() throws IOException {
+        Pattern method = Pattern.compile("(?m)^((?: {4}){1,2})\\w[^\\n]*\\) \\{\\n(?s:(.*?))^\\1\\}");
+        Matcher found = method.matcher(source());
+        int methods = 0;
+        while (found.find()) {
+            methods++;
+            long lines = found.group(2).lines().count();
+            CHECK.holds("a method has some sixty lines at most: " + found.group().lines().findFirst().get(), lines <= 60);
+        }
+        CHECK.holds("there are methods: " + methods, methods > FACE.size());
+    }
+
     private static void text() throws IOException {
-        String source = Files.readString(Path.of("src/main/java/FewWays.java"));
+        String source = source();
         String[] ruledOut = {
             "import ", "package ", "->", "::", "finally", "synchronized", "assert ", "try ", "catch", "throw",
             "native ", "volatile", "transient", "double", "float", "hashCode", "equals", "toString", "System.",
